@@ -1,0 +1,114 @@
+/** Promises 4 (say), 6 (hear) and 8 (inner), of G.726. */
+public final class AdpcmTest {
+    private static int transitions = 0;
+    private static int wraps = 0;
+
+    public static void main(String[] args) {
+        firstNumbers();
+        for (int k = 2; k <= 5; k++) {
+            knownRun(k);
+            for (int seed = 1; seed <= 30; seed++) {
+                said(k, Signals.voice(seed, 440));
+                said(k, Signals.tones(seed, 440));
+                heard(k, Signals.codes(seed, 440, k));
+                heard(k, Signals.stubborn(seed, 440, k));
+            }
+            for (int code = 0; code < 1 << k; code++) {
+                int[] row = new int[440];
+                java.util.Arrays.fill(row, code);
+                heard(k, row);
+            }
+            wrongCalls(k);
+        }
+        Check.holds("some run has a transition", transitions > 0);
+        Check.holds("some run wraps a coefficient", wraps > 0);
+        Check.end();
+    }
+
+    private static void firstNumbers() {
+        for (int k = 2; k <= 5; k++) {
+            VoiceDesk desk = new VoiceDesk();
+            desk.open(0, k);
+            for (int side = 0; side < 2; side++) {
+                for (int what = 0; what < 24; what++) {
+                    int due = what == 0 ? 34816 : what == 1 ? 544 : what >= 14 && what < 22 ? 32 : 0;
+                    Check.same("first inner " + what, desk.inner(0, side, what), due);
+                }
+            }
+        }
+    }
+
+    /** Sums of the codes that another maker's G.726 (SpanDSP) answered for the same samples. */
+    private static void knownRun(int k) {
+        long[] due = {0, 0, 398603329, 36829060, 691022249, 271854950};
+        long sum = 0;
+        for (int seed = 1; seed <= 10; seed++) {
+            VoiceDesk desk = new VoiceDesk();
+            desk.open(0, k);
+            for (int x : Signals.voice(seed, 440)) {
+                sum = (sum * 31 + desk.say(0, x)) % 1000000007L;
+            }
+        }
+        Check.same("sum of codes, k " + k, sum, due[k]);
+    }
+
+    private static void checkNumbers(String run, VoiceDesk desk, int side, AdpcmModel model) {
+        for (int what = 0; what < 24; what++) {
+            Check.same(run + " inner " + what, desk.inner(1, side, what), model.number(what));
+        }
+        transitions += model.transitions;
+        wraps += model.wraps;
+    }
+
+    private static void said(int k, int[] samples) {
+        VoiceDesk desk = new VoiceDesk();
+        desk.open(1, k);
+        AdpcmModel model = new AdpcmModel(k);
+        for (int i = 0; i < samples.length; i++) {
+            Check.same("k " + k + " say " + i, desk.say(1, samples[i]), model.say(samples[i]));
+        }
+        checkNumbers("said, k " + k, desk, 0, model);
+        checkNumbers("silent hearer, k " + k, desk, 1, new AdpcmModel(k));
+    }
+
+    private static void heard(int k, int[] codes) {
+        VoiceDesk desk = new VoiceDesk();
+        desk.open(1, k);
+        AdpcmModel model = new AdpcmModel(k);
+        for (int i = 0; i < codes.length; i++) {
+            Check.same("k " + k + " hear " + i, desk.hear(1, codes[i]), model.hear(codes[i]));
+        }
+        checkNumbers("heard, k " + k, desk, 1, model);
+        checkNumbers("silent speaker, k " + k, desk, 0, new AdpcmModel(k));
+    }
+
+    private static void wrongCalls(int k) {
+        VoiceDesk desk = new VoiceDesk();
+        desk.open(1, k);
+        AdpcmModel model = new AdpcmModel(k);
+        model.say(3000);
+        Check.holds("a code", desk.say(1, 3000) >= 0);
+        for (int x : new int[] {-32769, 32768, Integer.MIN_VALUE, Integer.MAX_VALUE}) {
+            Check.none("say " + x, desk.say(1, x));
+        }
+        for (int code : new int[] {-1, 1 << k, 255, Integer.MIN_VALUE, Integer.MAX_VALUE}) {
+            Check.none("hear " + code, desk.hear(1, code));
+        }
+        for (int l : new int[] {-1, 0, 2, 4}) {
+            Check.none("say on line " + l, desk.say(l, 0));
+            Check.none("hear on line " + l, desk.hear(l, 0));
+            Check.none("inner of line " + l, desk.inner(l, 0, 0));
+        }
+        for (int what : new int[] {-1, 24, 30, 60, Integer.MIN_VALUE, Integer.MAX_VALUE}) {
+            Check.none("inner " + what, desk.inner(1, 0, what));
+            Check.none("inner " + what, desk.inner(1, 1, what));
+        }
+        for (int side : new int[] {-1, 2, Integer.MIN_VALUE, Integer.MAX_VALUE}) {
+            Check.none("inner of side " + side, desk.inner(1, side, 0));
+        }
+        Check.none("pair", desk.pair(1, 0, 0));
+        Check.none("second", desk.second(1));
+        checkNumbers("refused, k " + k, desk, 0, model);
+        checkNumbers("refused, k " + k, desk, 1, new AdpcmModel(k));
+    }
+}
