@@ -63,7 +63,7 @@ public final class LawTest {
         for (int code = 0; code < 256; code++) {
             int sample = LawModel.sample(kind, code);
             Check.same("kind " + kind + " hear " + code, desk.hear(0, code), sample);
-            int again = desk.law(kind, code, 2);
+            int again = new VoiceDesk().law(kind, code, 2);
             Check.same("law(" + kind + ", " + code + ", 2)", again, LawModel.code(kind, sample));
             Check.same("only the other 0 changes", again == code, !(kind == 0 && code == 127));
         }

@@ -44,12 +44,13 @@ public final class PassTest {
         VoiceDesk desk = opened(from, to);
         VoiceDesk other = opened(from, to);
         String what = "pass from " + from + " to " + to;
-        int[] codes = Signals.stubborn(from + 9 * to, 80, bits(from));
+        int[] codes = Signals.stubborn(from + 9 * to, 60, bits(from));
         for (int code : codes) {
             Check.same(what, desk.pass(0, 3, code), byHand(other, 0, 3, code));
         }
         checkAlike(what, desk, other, 3);
-        // one side alone of line 0: two lines are too many calls for one object
+        Check.same(what + " second", desk.second(0), other.second(0));
+        // one side alone of line 0: all numbers of both lines are too many calls for one object
         for (int n = 0; n < 53; n++) {
             Check.same(what + " inner " + n, desk.inner(0, 1, n), other.inner(0, 1, n));
         }
