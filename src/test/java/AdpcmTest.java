@@ -1,3 +1,5 @@
+import java.util.Arrays;
+
 /** Promises 4 (say), 6 (hear) and 8 (inner), of G.726. */
 public final class AdpcmTest {
     private static int transitions = 0;
@@ -15,8 +17,16 @@ public final class AdpcmTest {
             }
             for (int code = 0; code < 1 << k; code++) {
                 int[] row = new int[440];
-                java.util.Arrays.fill(row, code);
+                Arrays.fill(row, code);
                 heard(k, row);
+            }
+            for (int seed = 1; seed <= 12; seed++) {
+                everyMoment(k, Signals.tones(seed, 440));
+                everyMoment(k, Signals.voice(seed + 50, 440));
+                longSaid(k, Signals.voice(seed + 100, 4000));
+                longSaid(k, Signals.tones(seed + 100, 4000));
+                longHeard(k, Signals.codes(seed + 100, 5000, k));
+                longHeard(k, Signals.stubborn(seed + 100, 5000, k));
             }
             wrongCalls(k);
         }
@@ -80,6 +90,49 @@ public final class AdpcmTest {
         }
         checkNumbers("heard, k " + k, desk, 1, model);
         checkNumbers("silent speaker, k " + k, desk, 0, new AdpcmModel(k));
+    }
+
+    /** All inner numbers after each sample: a pack brings a new line to that moment. */
+    private static void everyMoment(int k, int[] samples) {
+        AdpcmModel model = new AdpcmModel(k);
+        for (int i = 0; i < samples.length; i++) {
+            model.say(samples[i]);
+            VoiceDesk desk = new VoiceDesk();
+            desk.open(1, k);
+            Tapes.feedSamples(desk, Arrays.copyOf(samples, i + 1));
+            desk.pack(1, true);
+            checkNumbers("moment " + i + ", k " + k, desk, 0, model);
+        }
+    }
+
+    private static void longSaid(int k, int[] samples) {
+        VoiceDesk desk = new VoiceDesk();
+        desk.open(1, k);
+        AdpcmModel model = new AdpcmModel(k);
+        for (int at = 0; at < samples.length; at += 500) {
+            int[] piece = Arrays.copyOfRange(samples, at, at + 500);
+            Tapes.feedSamples(desk, piece);
+            desk.pack(1, false);
+            for (int x : piece) {
+                model.say(x);
+            }
+        }
+        checkNumbers("long said, k " + k, desk, 0, model);
+    }
+
+    private static void longHeard(int k, int[] codes) {
+        VoiceDesk desk = new VoiceDesk();
+        desk.open(1, k);
+        AdpcmModel model = new AdpcmModel(k);
+        for (int at = 0; at < codes.length; at += 250) {
+            int[] piece = Arrays.copyOfRange(codes, at, at + 250);
+            Tapes.feedBytes(desk, Tapes.packed(piece, k, true));
+            desk.unpack(1, true, 250);
+            for (int code : piece) {
+                model.hear(code);
+            }
+        }
+        checkNumbers("long heard, k " + k, desk, 1, model);
     }
 
     private static void wrongCalls(int k) {

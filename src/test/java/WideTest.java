@@ -1,3 +1,5 @@
+import java.util.Arrays;
+
 /** Promises 5 (pair), 6 (hear), 7 (second) and 8 (inner), of G.722. */
 public final class WideTest {
     private static final int[] WAYS = {64, 56, 48};
@@ -15,10 +17,21 @@ public final class WideTest {
             }
             for (int code = 0; code < 256; code++) {
                 int[] row = new int[150];
-                java.util.Arrays.fill(row, code);
+                Arrays.fill(row, code);
                 heard(kind, row);
             }
+            for (int seed = 1; seed <= 10; seed++) {
+                longSaid(kind, Signals.voice(seed + 100, 3500));
+                longSaid(kind, Signals.tones(seed + 100, 3500));
+                longSaid(kind, slowTone(seed, 3500));
+                longHeard(kind, Signals.codes(seed + 100, 5000, 8));
+                longHeard(kind, Signals.stubborn(seed + 100, 5000, 8));
+            }
             wrongCalls(kind);
+        }
+        for (int seed = 1; seed <= 20; seed++) {
+            everyMoment(Signals.voice(seed + 50, 500));
+            everyMoment(slowTone(seed, 500));
         }
         Check.end();
     }
@@ -88,6 +101,59 @@ public final class WideTest {
             Check.same("kind " + kind + " second " + i, desk.second(2), model.second());
         }
         checkNumbers("heard, kind " + kind, desk, 1, model);
+    }
+
+    /** A steady tone, which drives A1 and A2 of a band to their ends. */
+    private static int[] slowTone(int seed, int count) {
+        int[] row = new int[count];
+        for (int i = 0; i < count; i++) {
+            row[i] = Signals.sample(1500 * seed * StrictMath.sin(0.06 * seed * i));
+        }
+        return row;
+    }
+
+    /** All inner numbers after each pair: a pack brings a new line to that moment. */
+    private static void everyMoment(int[] samples) {
+        WideModel model = new WideModel();
+        for (int i = 0; i < samples.length; i += 2) {
+            model.pair(samples[i], samples[i + 1]);
+            VoiceDesk desk = new VoiceDesk();
+            desk.open(2, 6);
+            Tapes.feedSamples(desk, Arrays.copyOf(samples, i + 2));
+            desk.pack(2, true);
+            checkNumbers("moment " + i, desk, 0, model);
+        }
+    }
+
+    private static void longSaid(int kind, int[] samples) {
+        VoiceDesk desk = new VoiceDesk();
+        desk.open(2, kind);
+        WideModel model = new WideModel();
+        for (int at = 0; at < samples.length; at += 500) {
+            int[] piece = Arrays.copyOfRange(samples, at, at + 500);
+            Tapes.feedSamples(desk, piece);
+            desk.pack(2, false);
+            for (int i = 0; i < piece.length; i += 2) {
+                model.pair(piece[i], piece[i + 1]);
+            }
+        }
+        checkNumbers("long said, kind " + kind, desk, 0, model);
+    }
+
+    private static void longHeard(int kind, int[] codes) {
+        VoiceDesk desk = new VoiceDesk();
+        desk.open(2, kind);
+        WideModel model = new WideModel();
+        for (int at = 0; at < codes.length; at += 250) {
+            int[] piece = Arrays.copyOfRange(codes, at, at + 250);
+            Tapes.feedBytes(desk, piece);
+            desk.unpack(2, true, 250);
+            for (int code : piece) {
+                model.hear(code, WAYS[kind - 6]);
+            }
+        }
+        checkNumbers("long heard, kind " + kind, desk, 1, model);
+        Check.same("long heard, second", desk.second(2), model.second());
     }
 
     private static void wrongCalls(int kind) {

@@ -32,7 +32,6 @@ final class WideModel {
         return second;
     }
 
-    /** -1 where the document tells no number. */
     long number(int what) {
         if (what >= 60) {
             return x[what - 60];
