@@ -194,11 +194,18 @@ public final class VoiceDesk {
     }
 
     private static int cut(int v, int least, int most) {
-        return Math.max(least, Math.min(most, v));
+        if (v < least) {
+            return least;
+        }
+        return v > most ? most : v;
     }
 
+    // no call of cut(): LANGUAGE.md wants calls to stay shallow
     private static int limited(int v) {
-        return cut(v, LEAST_SAMPLE, MOST_SAMPLE);
+        if (v < LEAST_SAMPLE) {
+            return LEAST_SAMPLE;
+        }
+        return v > MOST_SAMPLE ? MOST_SAMPLE : v;
     }
 
     private static int wrapped(int v) {
@@ -944,11 +951,23 @@ public final class VoiceDesk {
             return (numbers[DET] * factor) >> 15;
         }
 
+        /** What comes of a code: the scale, then FOREHAND. */
         void settle(int factor, int weight, int mostNb, int shift) {
             // of the DET of before: the new one is of the next code
             int d = difference(factor);
+            int r = limited(numbers[S] + d);
+            int p = limited(numbers[SZ] + d);
             adaptScale(weight, mostNb, shift);
-            foresee(d);
+            adaptPoles(p);
+            adaptZeros(d);
+            remember(d, r, p);
+            int sz = 0;
+            for (int i = 0; i < TAPS; i++) {
+                sz += product(B1 + i, D1 + i);
+            }
+            numbers[SP] = limited(product(A1, R1) + product(A2, R2));
+            numbers[SZ] = limited(sz);
+            numbers[S] = limited(numbers[SP] + numbers[SZ]);
         }
 
         private void adaptScale(int weight, int mostNb, int shift) {
@@ -957,22 +976,6 @@ public final class VoiceDesk {
             int down = shift - (nb >> 11);
             numbers[NB] = nb;
             numbers[DET] = 4 * (down < 0 ? root << -down : root >> down);
-        }
-
-        private void foresee(int d) {
-            int r = limited(numbers[S] + d);
-            int p = limited(numbers[SZ] + d);
-            adaptPoles(p);
-            adaptZeros(d);
-            remember(d, r, p);
-            int sp = product(A1, R1) + product(A2, R2);
-            int sz = 0;
-            for (int i = 0; i < TAPS; i++) {
-                sz += product(B1 + i, D1 + i);
-            }
-            numbers[SP] = limited(sp);
-            numbers[SZ] = limited(sz);
-            numbers[S] = limited(numbers[SP] + numbers[SZ]);
         }
 
         private int product(int factor, int signal) {

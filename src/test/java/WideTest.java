@@ -27,7 +27,14 @@ public final class WideTest {
                 longHeard(kind, Signals.codes(seed + 100, 5000, 8));
                 longHeard(kind, Signals.stubborn(seed + 100, 5000, 8));
             }
+            for (int length = 5; length < 30; length++) {
+                heard(kind, Signals.swinging(160, 4, length, 190));
+                longHeard(kind, Signals.swinging(160, 4, length, 500));
+            }
             wrongCalls(kind);
+        }
+        for (int seed = 1; seed <= 200; seed++) {
+            said(6, Signals.noise(seed, 680));
         }
         for (int seed = 1; seed <= 20; seed++) {
             everyMoment(Signals.voice(seed + 50, 500));

@@ -28,6 +28,8 @@ final class AdpcmModel {
     /** How often the rarer branches were taken, so that a test can see that it reached them. */
     int transitions = 0;
     int wraps = 0;
+    int highEnds = 0;
+    int evenSteps = 0;
 
     private final int k;
     private long yl = 34816;
@@ -169,6 +171,7 @@ final class AdpcmModel {
             }
         }
         a2 = a;
+        highEnds += a == 12288 ? 1 : 0;
         a1 = a1 - down(a1, 8);
         if (ds != 0) {
             a1 += p == pk1 ? 192 : -192;
@@ -187,9 +190,11 @@ final class AdpcmModel {
     private void pace(long f, boolean tr) {
         dms += down(f - dms, 5);
         dml += down(4 * f - dml, 7);
+        boolean apart = td == 1 || Math.abs(4 * dms - dml) >= down(dml, 3);
+        evenSteps += step == 1536 && !tr && !apart ? 1 : 0;
         if (tr) {
             ap = 256;
-        } else if (step < 1536 || td == 1 || Math.abs(4 * dms - dml) >= down(dml, 3)) {
+        } else if (step < 1536 || apart) {
             ap += down(512 - ap, 4);
         } else {
             ap += down(-ap, 4);

@@ -62,6 +62,30 @@ final class Signals {
         return row;
     }
 
+    /** Noise that comes in gusts, so that its peaks stand out of what was foreseen. */
+    static int[] noise(int seed, int count) {
+        Signals s = new Signals(seed);
+        int[] row = new int[count];
+        int amount = 1;
+        for (int i = 0; i < count; i++) {
+            if (i % 16 == 0) {
+                amount = 1 << s.next(16);
+            }
+            row[i] = sample(s.next(2 * amount) - amount);
+        }
+        return row;
+    }
+
+    /** Steady for a while, then swinging for as long: what drives A2 up. */
+    static int[] swinging(int one, int other, int length, int count) {
+        int[] row = new int[count];
+        for (int i = 0; i < count; i++) {
+            boolean steady = i / length % 2 == 0;
+            row[i] = steady || i % 2 == 0 ? one : other;
+        }
+        return row;
+    }
+
     static int[] codes(int seed, int count, int bits) {
         Signals s = new Signals(seed);
         int[] row = new int[count];
