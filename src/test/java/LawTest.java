@@ -2,6 +2,8 @@
 public final class LawTest {
     public static void main(String[] args) {
         knownAnswers();
+        muEnds();
+        aEnds();
         everySample(0);
         everySample(1);
         everyCode(0);
@@ -29,6 +31,46 @@ public final class LawTest {
         int[][] aHeard = {{213, 8}, {85, -8}, {170, 32256}, {42, -32256}};
         for (int[] row : aHeard) {
             Check.same("A hear " + row[0], desk.hear(1, row[0]), row[1]);
+        }
+    }
+
+    /** By hand from the document: both sides of "at most 8158", of SIGN and of each SEGMENT's end. */
+    private static void muEnds() {
+        VoiceDesk desk = new VoiceDesk();
+        desk.open(2, 0);
+        for (int x : new int[] {32635, 32636, 32767}) {
+            Check.same("mu say " + x, desk.say(2, x), 128);
+        }
+        for (int x : new int[] {-32632, -32633, -32768}) {
+            Check.same("mu say " + x, desk.say(2, x), 0);
+        }
+        for (int n = 0; n < 7; n++) {
+            // with 33 more, the amount x >> 2 is just 64 * 2 to the n here
+            int x = 4 * ((64 << n) - 33);
+            Check.same("mu say " + (x - 1), desk.say(2, x - 1), 240 - 16 * n);
+            Check.same("mu say " + x, desk.say(2, x), 239 - 16 * n);
+            Check.same("mu say " + (4 - x), desk.say(2, 4 - x), 112 - 16 * n);
+            Check.same("mu say " + (3 - x), desk.say(2, 3 - x), 111 - 16 * n);
+        }
+    }
+
+    /** By hand from the document: both sides of 0 and of the end of each n. */
+    private static void aEnds() {
+        VoiceDesk desk = new VoiceDesk();
+        desk.open(2, 1);
+        for (int n = 0; n < 7; n++) {
+            int x = 256 << n;
+            Check.same("A say " + (x - 1), desk.say(2, x - 1), (16 * n + 15) ^ 213);
+            Check.same("A say " + x, desk.say(2, x), (16 * n + 16) ^ 213);
+            Check.same("A say " + -x, desk.say(2, -x), (16 * n + 15) ^ 85);
+            Check.same("A say " + (-x - 1), desk.say(2, -x - 1), (16 * n + 16) ^ 85);
+        }
+        // n 0 and 1 have steps of sixteen samples, n 2 the first longer ones
+        int[][] rows = {
+            {240, 218}, {255, 218}, {256, 197}, {271, 197}, {272, 196}, {511, 202}, {512, 245}, {543, 245}, {544, 244}
+        };
+        for (int[] row : rows) {
+            Check.same("A say " + row[0], desk.say(2, row[0]), row[1]);
         }
     }
 

@@ -25,11 +25,8 @@ final class AdpcmModel {
         {0, 0, 0, 0, 0, 512, 512, 512, 512, 512, 1024, 1536, 2048, 2560, 3072, 3072}
     };
 
-    /** How often the rarer branches were taken, so that a test can see that it reached them. */
-    int transitions = 0;
-    int wraps = 0;
-    int highEnds = 0;
-    int evenSteps = 0;
+    /** So that a test can see which ends its run has met. */
+    final Ends ends = new Ends();
 
     private final int k;
     private long yl = 34816;
@@ -54,6 +51,10 @@ final class AdpcmModel {
         this.k = k;
     }
 
+    static long[] bounds(int k) {
+        return BOUNDS[k - 2].clone();
+    }
+
     long number(int what) {
         long[] first = {yl, y, dms, dml, ap, td, a1, a2};
         if (what < 8) {
@@ -72,15 +73,19 @@ final class AdpcmModel {
     }
 
     int say(int x) {
+        ends.clear();
         forehand();
         long diff = down(x, 2) - se;
         long m = Math.abs(diff);
         int e = size(down(m, 1));
+        ends.at("d", diff, -1, 0);
+        ends.size("say: m >> 1", down(m, 1));
         long l = 128 * e + Math.floorMod(down(128 * m, e), 128L) - down(step, 2);
         long[] bounds = BOUNDS[k - 2];
         int n = bounds.length;
         int i = 0;
         for (long bound : bounds) {
+            ends.at("BOUND " + bound + (diff < 0 ? " below 0" : ""), l - bound, -1, 0);
             if (l >= bound) {
                 i++;
             }
@@ -96,8 +101,11 @@ final class AdpcmModel {
     }
 
     int hear(int code) {
+        ends.clear();
         forehand();
-        return (int) Math.max(-32768, Math.min(32767, comes(code) * 4));
+        long sr = comes(code);
+        ends.around("heard: SR", sr, -8192, 8191);
+        return (int) Math.max(-32768, Math.min(32767, sr * 4));
     }
 
     private void forehand() {
@@ -105,15 +113,19 @@ final class AdpcmModel {
         for (int i = 0; i < 6; i++) {
             z += times(down(b[i], 2), d[i]);
         }
-        z = wrapped(z);
-        se = down(wrapped(z + times(down(a2, 2), s2) + times(down(a1, 2), s1)), 1);
+        z = wrapped("Z", z);
+        se = down(wrapped("SE", z + times(down(a2, 2), s2) + times(down(a1, 2), s1)), 1);
+        long u = down(yl, 6);
+        long f = y - u;
+        if (Math.abs(f) > 640) {
+            ends.at("STEP AP", ap, 255, 256);
+        }
         if (ap >= 256) {
             step = y;
             return;
         }
-        long u = down(yl, 6);
-        long f = y - u;
         long g = down(ap, 2);
+        ends.at("STEP f", f, -1, 0, 1);
         step = u;
         if (f > 0) {
             step += down(f * g, 6);
@@ -123,25 +135,32 @@ final class AdpcmModel {
     }
 
     private long comes(int c) {
-        int half = (int) Math.pow(2, k - 1);
+        int half = 1 << (k - 1);
         boolean below = c >= half;
         int row = below ? 2 * half - 1 - c : c;
         long q = TABLE[k - 2][row] + down(step, 2);
         long t = q < 0 ? 0 : down((128 + q % 128) * 128, (int) (14 - q / 128 % 16));
-        long sr = wrapped(below ? se - t : se + t);
-        long ds = wrapped(sr + down(z, 1) - se);
-        boolean tr = td == 1 && t > threshold();
-        transitions += tr ? 1 : 0;
-        y = Math.min(5120, Math.max(544, step + down(WEIGHT[k - 2][row] - step, 5)));
+        long sr = wrapped("SR", below ? se - t : se + t);
+        long ds = wrapped("DS", sr + down(z, 1) - se);
+        ends.at("DS", ds, -1, 0, 1);
+        long h = threshold();
+        boolean tr = td == 1 && t > h;
+        ends.at("TR t - h with TD " + td, t - h, 0, 1);
+        long newY = step + down(WEIGHT[k - 2][row] - step, 5);
+        ends.around("Y", newY, 544, 5120);
+        y = Math.min(5120, Math.max(544, newY));
         yl = yl + y + down(-yl, 6);
         long p = ds < 0 ? 1 : 0;
         filters(tr, ds, p, t, below);
         System.arraycopy(d, 0, d, 1, 5);
         d[0] = floated(t, below);
+        ends.at(below ? "FLOAT of DQ below 0," : "FLOAT of DQ", t, 0, 16320, 16384);
+        ends.size(sr < 0 ? "FLOAT of SR below 0," : "FLOAT of SR", Math.abs(sr));
         s2 = s1;
         s1 = sr <= -32768 ? -992 : floated(Math.abs(sr), sr < 0);
         pk2 = pk1;
         pk1 = p;
+        ends.at("TD a", a2, -11777, -11776);
         td = !tr && a2 < -11776 ? 1 : 0;
         pace(PACE[k - 2][row], tr);
         return sr;
@@ -149,7 +168,7 @@ final class AdpcmModel {
 
     private long threshold() {
         int l = (int) down(yl, 15);
-        long v = l > 9 ? 31744 : (32 + Math.floorMod(down(yl, 10), 32L)) * (long) Math.pow(2, l);
+        long v = l > 9 ? 31744 : (32 + Math.floorMod(down(yl, 10), 32L)) * (1L << l);
         return down(v + down(v, 1), 1);
     }
 
@@ -163,35 +182,44 @@ final class AdpcmModel {
         long a = a2 - down(a2, 7);
         if (ds != 0) {
             long u = p != pk1 ? a1 : -a1;
+            ends.around("u", u, -8191, 8191);
             a += u < -8191 ? -256 : u > 8191 ? 255 : down(u, 5);
             if (p != pk2) {
+                ends.at("a, p unlike PK2,", a, -12160, -12159, 12415, 12416);
                 a = a <= -12160 ? -12288 : a >= 12416 ? 12288 : a - 128;
             } else {
+                ends.at("a, p like PK2,", a, -12416, -12415, 12159, 12160);
                 a = a <= -12416 ? -12288 : a >= 12160 ? 12288 : a + 128;
             }
         }
         a2 = a;
-        highEnds += a == 12288 ? 1 : 0;
         a1 = a1 - down(a1, 8);
         if (ds != 0) {
             a1 += p == pk1 ? 192 : -192;
         }
+        ends.beyond("A1", a1, 15360 - a);
         a1 = Math.max(-(15360 - a), Math.min(15360 - a, a1));
         for (int i = 0; i < 6; i++) {
             long n = b[i] - down(b[i], k == 5 ? 9 : 8);
             if (t != 0) {
                 n += below == (d[i] < 0) ? 128 : -128;
             }
-            b[i] = wrapped(n);
-            wraps += b[i] == n ? 0 : 1;
+            b[i] = wrapped("B", n);
         }
     }
 
     private void pace(long f, boolean tr) {
         dms += down(f - dms, 5);
         dml += down(4 * f - dml, 7);
-        boolean apart = td == 1 || Math.abs(4 * dms - dml) >= down(dml, 3);
-        evenSteps += step == 1536 && !tr && !apart ? 1 : 0;
+        long amount = Math.abs(4 * dms - dml);
+        boolean apart = td == 1 || amount >= down(dml, 3);
+        // ends are noted only where they alone decide how AP goes on
+        if (!tr && !apart) {
+            ends.at("AP y", step, 1535, 1536);
+        }
+        if (!tr && td == 0 && step >= 1536) {
+            ends.at("AP amount less DML >> 3", amount - down(dml, 3), -1, 0);
+        }
         if (tr) {
             ap = 256;
         } else if (step < 1536 || apart) {
@@ -202,29 +230,36 @@ final class AdpcmModel {
     }
 
     private static long down(long a, int n) {
-        return Math.floorDiv(a, (long) Math.pow(2, n));
+        return Math.floorDiv(a, 1L << n);
     }
 
-    private static long wrapped(long v) {
+    private long wrapped(String name, long v) {
+        ends.sixteenBits(name, v);
         return Math.floorMod(v + 32768, 65536L) - 32768;
     }
 
     private static int size(long v) {
         for (int n = 0; n < 15; n++) {
-            if (v < Math.pow(2, n)) {
+            if (v < 1L << n) {
                 return n;
             }
         }
         return 15;
     }
 
-    private static long times(long a, long f) {
+    private long times(long a, long f) {
         long m = Math.abs(a) % 8192;
         int e = size(m) - 6;
-        long q = m == 0 ? 32 : e < 0 ? m * (long) Math.pow(2, -e) : down(m, e);
+        long q = m == 0 ? 32 : e < 0 ? m * (1L << -e) : down(m, e);
         int w = (int) (e + Math.floorMod(down(f, 6), 16L) - 13);
         long p = down(q * Math.floorMod(f, 64L) + 48, 4);
-        long r = w < 0 ? down(p, -w) : p * (long) Math.pow(2, w) % 32768;
+        long r = w < 0 ? down(p, -w) : p * (1L << w) % 32768;
+        ends.size("TIMES amount of a", Math.abs(a));
+        ends.at("TIMES f", f, -1024 + 32, -1, 32, 1023);
+        ends.at("TIMES w", w, -1, 0);
+        if (w >= 0) {
+            ends.at("TIMES p * 2 to the w", p * (1L << w), 32512, 32768);
+        }
         return a < 0 ^ f < 0 ? -r : r;
     }
 

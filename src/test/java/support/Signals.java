@@ -108,4 +108,96 @@ final class Signals {
         }
         return row;
     }
+
+    /** A few codes again and again, at times others. */
+    static int[] pattern(int seed, int count, int bits) {
+        Signals s = new Signals(seed);
+        int[] row = new int[count];
+        int[] few = s.few(bits);
+        for (int i = 0; i < count; i++) {
+            if (s.next(60) == 0) {
+                few = s.few(bits);
+            }
+            row[i] = s.next(20) == 0 ? s.next(1 << bits) : few[i % few.length];
+        }
+        return row;
+    }
+
+    private int[] few(int bits) {
+        int[] few = new int[1 + next(8)];
+        for (int i = 0; i < few.length; i++) {
+            few[i] = next(1 << bits);
+        }
+        return few;
+    }
+
+    /** Mostly the loudest codes, now above 0, now below. */
+    static int[] loud(int seed, int count, int bits) {
+        Signals s = new Signals(seed);
+        int half = 1 << (bits - 1);
+        int[] above = bits == 8 ? new int[] {160, 161, 164} : new int[] {half - 1, half - 2};
+        int[] below = bits == 8 ? new int[] {4, 5, 8} : new int[] {half, half + 1};
+        int[] row = new int[count];
+        int longest = 1 + s.next(40);
+        int left = longest;
+        boolean isAbove = true;
+        for (int i = 0; i < count; i++) {
+            if (left == 0) {
+                isAbove = !isAbove;
+                left = 1 + s.next(longest);
+            }
+            left--;
+            int[] few = isAbove ? above : below;
+            row[i] = s.next(15) == 0 ? s.next(1 << bits) : few[s.next(few.length)];
+        }
+        return row;
+    }
+
+    /** The seed's own code, all the time; its last ones in turn with the code of the other sign. */
+    static int[] steady(int seed, int count, int bits) {
+        int[] row = new int[count];
+        for (int i = 0; i < count; i++) {
+            boolean turned = i >= count - 300 && i % 2 == 0;
+            row[i] = turned ? (1 << bits) - 1 - seed : seed;
+        }
+        return row;
+    }
+
+    /** Short pieces of tones, steps, noise and silence, up to all the sixteen bits hold and cut there. */
+    static int[] pieces(int seed, int count) {
+        Signals s = new Signals(seed);
+        int[] amounts = {1, 8, 60, 400, 2500, 9000, 20000, 32768, 60000};
+        int[] row = new int[count];
+        int at = 0;
+        while (at < count) {
+            int kind = s.next(6);
+            int amount = amounts[s.next(amounts.length)];
+            double turn = (1 + s.next(310)) / 100.0;
+            int length = 3 + s.next(30);
+            for (int i = 0; i < length && at < count; i++, at++) {
+                boolean coin = kind == 5 && s.next(2) == 0;
+                row[at] = kind == 5 ? sample(coin ? amount : -amount) : s.piece(kind, amount, turn, i);
+            }
+        }
+        return row;
+    }
+
+    /** One tone, so loud that it is cut, whose phase jumps: what was foreseen is then far off. */
+    static int[] jumps(int seed, int count) {
+        Signals s = new Signals(seed);
+        double amount = 20000 << s.next(8);
+        double turn = s.next(3142) / 1000.0;
+        double phase = 0;
+        int left = 0;
+        int[] row = new int[count];
+        for (int i = 0; i < count; i++) {
+            if (left == 0) {
+                phase = s.next(6283) / 1000.0;
+                left = 8 + s.next(80);
+            }
+            left--;
+            row[i] = sample(amount * StrictMath.sin(turn * i + phase));
+        }
+        return row;
+    }
 }

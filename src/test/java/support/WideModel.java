@@ -23,8 +23,11 @@ final class WideModel {
         -2032, -1688, -1360, -1040, -728
     };
 
-    private final Band low = new Band(32);
-    private final Band high = new Band(8);
+    /** So that a test can see which ends its run has met. */
+    final Ends ends = new Ends();
+
+    private final Band low = new Band("low", 32, ends);
+    private final Band high = new Band("high", 8, ends);
     private final long[] x = new long[24];
     private int second = 0;
 
@@ -40,13 +43,19 @@ final class WideModel {
     }
 
     int pair(int v, int w) {
+        ends.clear();
         shift(v, w);
         long o = evens();
         long e = odds();
-        long dl = limited(down(e + o, 14) - low.s);
-        long dh = limited(down(e - o, 14) - high.s);
+        long dl = limited("d of LOW", down(e + o, 14) - low.s);
+        long dh = limited("d of HIGH", down(e - o, 14) - high.s);
+        ends.at("d of LOW", dl, -1, 0);
+        ends.at("d of HIGH", dh, -1, 0);
         int il = lowCode(dl);
-        boolean near = (dh < 0 ? -(dh + 1) : dh) < down(564 * high.det, 12);
+        long mh = dh < 0 ? -(dh + 1) : dh;
+        long bound = down(564 * high.det, 12);
+        ends.at("high 564" + (dh < 0 ? " below 0" : ""), mh - bound, -1, 0);
+        boolean near = mh < bound;
         int ih = near ? (dh < 0 ? 1 : 3) : (dh < 0 ? 0 : 2);
         comes(il, ih);
         return 64 * ih + il;
@@ -56,7 +65,9 @@ final class WideModel {
         long m = d < 0 ? -(d + 1) : d;
         int i = 30;
         for (int j = 29; j >= 1; j--) {
-            if (m < down(Q[j - 1] * low.det, 12)) {
+            long bound = down(Q[j - 1] * low.det, 12);
+            ends.at("Q" + j + (d < 0 ? " below 0" : ""), m - bound, -1, 0);
+            if (m < bound) {
                 i = j;
             }
         }
@@ -67,15 +78,26 @@ final class WideModel {
     }
 
     int hear(int code, int way) {
+        ends.clear();
         int il = code % 64;
         int ih = code / 64;
         long factor = way == 64 ? x64(il) : way == 56 ? x56(il / 2) : U[il / 4];
-        long lo = cut(low.s + down(low.det * factor, 15), -16384, 16383);
-        long hi = cut(high.s + down(high.det * V[ih], 15), -16384, 16383);
+        long lo = halved("LOW", low.s + down(low.det * factor, 15));
+        long hi = halved("HIGH", high.s + down(high.det * V[ih], 15));
         comes(il, ih);
         shift(lo + hi, lo - hi);
-        second = (int) limited(down(evens(), 11));
-        return (int) limited(down(odds(), 11));
+        second = (int) limited("second heard", down(evens(), 11));
+        return (int) limited("first heard", down(odds(), 11));
+    }
+
+    private long limited(String name, long v) {
+        ends.sixteenBits(name, v);
+        return cut(v, -32768, 32767);
+    }
+
+    private long halved(String name, long v) {
+        ends.around(name, v, -16384, 16383);
+        return cut(v, -16384, 16383);
     }
 
     private static long x56(int i) {
@@ -133,18 +155,16 @@ final class WideModel {
     }
 
     private static long down(long a, int n) {
-        return Math.floorDiv(a, (long) Math.pow(2, n));
+        return Math.floorDiv(a, 1L << n);
     }
 
     private static long cut(long v, long least, long most) {
         return Math.max(least, Math.min(most, v));
     }
 
-    private static long limited(long v) {
-        return cut(v, -32768, 32767);
-    }
-
     private static final class Band {
+        final String name;
+        final Ends ends;
         long nb = 0;
         long det;
         long s = 0;
@@ -156,8 +176,20 @@ final class WideModel {
         final long[] p = new long[3];
         final long[] d = new long[7];
 
-        Band(long det) {
+        Band(String name, long det, Ends ends) {
+            this.name = name + " ";
             this.det = det;
+            this.ends = ends;
+        }
+
+        long limited(String what, long v) {
+            ends.sixteenBits(name + what, v);
+            return cut(v, -32768, 32767);
+        }
+
+        private long doubled(String what, long v) {
+            ends.around(name + what, v, -16384, 16383);
+            return cut(2 * v, -32768, 32767);
         }
 
         long number(int what) {
@@ -169,10 +201,14 @@ final class WideModel {
         }
 
         void scale(long weight, long most, int shift) {
-            nb = cut(down(127 * nb, 7) + weight, 0, most);
+            long newNb = down(127 * nb, 7) + weight;
+            ends.around(name + "NB", newNb, 0, most);
+            nb = cut(newNb, 0, most);
             long root = ROOTS[(int) (nb / 64 % 32)];
             int n = shift - (int) (nb / 2048);
-            det = 4 * (n < 0 ? root * (long) Math.pow(2, -n) : down(root, n));
+            ends.at(name + "NB >> 6", nb / 64, 31, 32);
+            ends.at(name + "shift", n, -1, 0, shift);
+            det = 4 * (n < 0 ? root * (1L << -n) : down(root, n));
         }
 
         private static boolean alike(long u, long v) {
@@ -181,28 +217,35 @@ final class WideModel {
 
         void forehand(long diff) {
             d[0] = diff;
-            r[0] = limited(s + diff);
-            p[0] = limited(sz + diff);
-            long g = limited(4 * a[1]);
+            r[0] = limited("R0", s + diff);
+            p[0] = limited("P0", sz + diff);
+            ends.at(name + "P0", p[0], -1, 0);
+            ends.at(name + "d", diff, -1, 0, 1);
+            ends.around(name + (alike(p[0], p[1]) ? "4 A1, alike," : "4 A1, unlike,"), a[1], -8192, 8191);
+            long g = cut(4 * a[1], -32768, 32767);
             g = Math.min(32767, alike(p[0], p[1]) ? -g : g);
             long first = alike(p[0], p[2]) ? 128 : -128;
-            a[2] = cut(first + down(g, 7) + down(a[2] * 32512, 15), -12288, 12288);
+            long newA2 = first + down(g, 7) + down(a[2] * 32512, 15);
+            ends.around(name + "A2", newA2, -12288, 12288);
+            a[2] = cut(newA2, -12288, 12288);
             long nudge = alike(p[0], p[1]) ? 192 : -192;
-            a[1] = cut(limited(nudge + down(a[1] * 32640, 15)), a[2] - 15360, 15360 - a[2]);
+            long newA1 = limited("A1", nudge + down(a[1] * 32640, 15));
+            ends.beyond(name + "A1", newA1, 15360 - a[2]);
+            a[1] = cut(newA1, a[2] - 15360, 15360 - a[2]);
             for (int i = 1; i <= 6; i++) {
                 long step = diff == 0 ? 0 : alike(diff, d[i]) ? 128 : -128;
-                b[i] = limited(step + down(b[i] * 32640, 15));
+                b[i] = limited("B", step + down(b[i] * 32640, 15));
             }
             System.arraycopy(d, 0, d, 1, 6);
             System.arraycopy(r, 0, r, 1, 2);
             System.arraycopy(p, 0, p, 1, 2);
-            sp = limited(down(a[1] * limited(2 * r[1]), 15) + down(a[2] * limited(2 * r[2]), 15));
+            sp = limited("SP", down(a[1] * doubled("2 R1", r[1]), 15) + down(a[2] * doubled("2 R2", r[2]), 15));
             long sum = 0;
             for (int i = 1; i <= 6; i++) {
-                sum += down(b[i] * limited(2 * d[i]), 15);
+                sum += down(b[i] * doubled("2 D", d[i]), 15);
             }
-            sz = limited(sum);
-            s = limited(sp + sz);
+            sz = limited("SZ", sum);
+            s = limited("S", sp + sz);
         }
     }
 }
