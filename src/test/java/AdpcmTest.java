@@ -4,6 +4,7 @@ import java.util.Arrays;
 public final class AdpcmTest {
     public static void main(String[] args) {
         firstNumbers();
+        firstSteps();
         for (int k = 2; k <= 5; k++) {
             knownRun(k);
             for (int seed = 1; seed <= 30; seed++) {
@@ -45,6 +46,33 @@ public final class AdpcmTest {
                 }
             }
         }
+    }
+
+    /** Reckoned by hand from the document: one code heard by a new line, and all its numbers then. */
+    private static void firstSteps() {
+        firstStep(5, 15, 188, new int[] {35495, 1223, 96, 96, 32, 0, 192, 128, 128, 431, 431, 0});
+        firstStep(5, 16, -188, new int[] {35495, 1223, 96, 96, 32, 0, -192, -128, -128, -593, -593, 1});
+        firstStep(5, 0, 0, new int[] {34816, 544, 0, 0, 32, 0, 0, 0, 0, 32, 32, 0});
+        firstStep(5, 31, 0, new int[] {34816, 544, 0, 0, 32, 0, 0, 0, 0, 32, -992, 0});
+        firstStep(2, 0, 12, new int[] {34816, 544, 0, 0, 32, 0, 192, 128, 128, 176, 176, 0});
+    }
+
+    /** Due: YL, Y, DMS, DML, AP, TD, A1, A2, each of B1 .. B6, S1, D1, PK1. */
+    private static void firstStep(int k, int code, int sample, int[] due) {
+        VoiceDesk desk = new VoiceDesk();
+        desk.open(3, k);
+        Check.same("k " + k + " first hear " + code, desk.hear(3, code), sample);
+        for (int what = 0; what < 14; what++) {
+            Check.same("k " + k + " first " + code + " inner " + what, desk.inner(3, 1, what), due[Math.min(what, 8)]);
+        }
+        Check.same("S1", desk.inner(3, 1, 14), due[9]);
+        Check.same("S2", desk.inner(3, 1, 15), 32);
+        Check.same("D1", desk.inner(3, 1, 16), due[10]);
+        for (int what = 17; what < 22; what++) {
+            Check.same("D2 ..", desk.inner(3, 1, what), 32);
+        }
+        Check.same("PK1", desk.inner(3, 1, 22), due[11]);
+        Check.same("PK2", desk.inner(3, 1, 23), 0);
     }
 
     /** Sums of the codes that another maker's G.726 (SpanDSP) answered for the same samples. */

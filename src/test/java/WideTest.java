@@ -6,6 +6,7 @@ public final class WideTest {
 
     public static void main(String[] args) {
         knownRun();
+        firstSteps();
         for (int kind = 6; kind <= 8; kind++) {
             firstNumbers(kind);
             for (int seed = 1; seed <= 20; seed++) {
@@ -54,6 +55,37 @@ public final class WideTest {
             }
         }
         Check.same("second ahead of any", desk.second(2), 0);
+    }
+
+    /** Reckoned by hand from the document: one code heard by a new line. */
+    private static void firstSteps() {
+        int[] low4 = {3042, 88, 0, 0, 0, -192, -128, -128, -20};
+        int[] high4 = {798, 8, 0, 0, 0, -192, -128, -128, -2};
+        firstStep(4, -27, -23, low4, high4);
+        // NB would be -60 and -214; what is foreseen of a d of 0 leaves Bi alone
+        int[] low64 = {0, 32, 0, 0, 0, 192, 128, 0, 0};
+        int[] high64 = {0, 8, 0, 0, 0, -192, -128, -128, -1};
+        firstStep(64, -2, 0, low64, high64);
+    }
+
+    /** Due of a band: NB, DET, S, SP, SZ, A1, A2, each of B1 .. B6, and R1, P1, D1, which are alike. */
+    private static void firstStep(int code, int x22, int x23, int[] low, int[] high) {
+        VoiceDesk desk = new VoiceDesk();
+        desk.open(3, 6);
+        Check.same("first hear " + code, desk.hear(3, code), 3 * x23 >> 11);
+        Check.same("first second " + code, desk.second(3), -11 * x22 >> 11);
+        for (int band = 0; band < 2; band++) {
+            int[] due = band == 0 ? low : high;
+            for (int what = 0; what < 23; what++) {
+                int number = what < 13 ? due[Math.min(what, 7)] : what == 13 || what == 15 || what == 17 ? due[8] : 0;
+                String call = "first " + code + " inner " + (30 * band + what);
+                Check.same(call, desk.inner(3, 1, 30 * band + what), number);
+            }
+        }
+        for (int what = 60; what < 84; what++) {
+            int number = what == 82 ? x22 : what == 83 ? x23 : 0;
+            Check.same("first " + code + " inner " + what, desk.inner(3, 1, what), number);
+        }
     }
 
     /** The sum of the codes that another maker's G.722 (SpanDSP) answered for the same samples. */
