@@ -19,6 +19,7 @@ public final class FaceTest {
     public static void main(String[] args) throws Exception {
         Check.same("NONE", VoiceDesk.NONE, -100000);
         Check.holds("public and final", VoiceDesk.class.getModifiers() == (Modifier.PUBLIC | Modifier.FINAL));
+        Check.holds("the document's face is " + FACE, FACE.equals(faceOfDocument()));
         methods();
         fieldsAndConstructors();
         nestedClasses();
@@ -26,10 +27,23 @@ public final class FaceTest {
         Check.end();
     }
 
+    /** The methods in the document's piece of Java, as "type name(types)". */
+    private static Set<String> faceOfDocument() throws Exception {
+        Set<String> face = new TreeSet<>();
+        for (String line : Files.readAllLines(Path.of("../shared/DOC.md"))) {
+            if (line.matches("    public \\w+ \\w+\\(.*\\);")) {
+                String call = line.substring("    public ".length(), line.length() - 1);
+                face.add(call.replaceAll("(int|boolean) \\w+(?=[,)])", "$1").replace(", ", ","));
+            }
+        }
+        return face;
+    }
+
     private static void methods() {
         Set<String> open = new TreeSet<>();
         for (Method method : VoiceDesk.class.getDeclaredMethods()) {
             if (isPrivate(method)) {
+                Check.holds(method + " has a name of its own", isFreeName(method.getName()));
                 continue;
             }
             StringBuilder text = new StringBuilder(method.getReturnType() + " " + method.getName() + "(");
@@ -46,9 +60,16 @@ public final class FaceTest {
         return Modifier.isPrivate(member.getModifiers());
     }
 
+    private static boolean isChangingStatic(Field field) {
+        return Modifier.isStatic(field.getModifiers()) && !Modifier.isFinal(field.getModifiers());
+    }
+
     private static void fieldsAndConstructors() {
         for (Field field : VoiceDesk.class.getDeclaredFields()) {
-            Check.holds("field " + field.getName(), isPrivate(field) || field.getName().equals("NONE"));
+            int none = Modifier.PUBLIC | Modifier.STATIC | Modifier.FINAL;
+            boolean isNone = field.getName().equals("NONE") && field.getModifiers() == none;
+            Check.holds("field " + field.getName(), isPrivate(field) || isNone);
+            Check.holds(field + " is no static state", !isChangingStatic(field));
         }
         Constructor<?>[] all = VoiceDesk.class.getDeclaredConstructors();
         Check.same("constructors", all.length, 1);
@@ -64,8 +85,7 @@ public final class FaceTest {
                 Check.holds(method + " takes at most seven", method.getParameterCount() <= 7);
             }
             for (Field field : nested.getDeclaredFields()) {
-                boolean changing = Modifier.isStatic(field.getModifiers()) && !Modifier.isFinal(field.getModifiers());
-                Check.holds(field + " is no static state", !changing);
+                Check.holds(field + " is no static state", !isChangingStatic(field));
             }
         }
     }

@@ -55,6 +55,18 @@ final class AdpcmModel {
         return BOUNDS[k - 2].clone();
     }
 
+    static long[] table(int k) {
+        return TABLE[k - 2].clone();
+    }
+
+    static long[] weight(int k) {
+        return WEIGHT[k - 2].clone();
+    }
+
+    static long[] pace(int k) {
+        return PACE[k - 2].clone();
+    }
+
     long number(int what) {
         long[] first = {yl, y, dms, dml, ap, td, a1, a2};
         if (what < 8) {

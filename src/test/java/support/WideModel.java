@@ -31,6 +31,26 @@ final class WideModel {
     private final long[] x = new long[24];
     private int second = 0;
 
+    static long[] coefficients() {
+        return C.clone();
+    }
+
+    static long[] q() {
+        return Q.clone();
+    }
+
+    static long[] roots() {
+        return ROOTS.clone();
+    }
+
+    static long[] u() {
+        return U.clone();
+    }
+
+    static long[] v() {
+        return V.clone();
+    }
+
     int second() {
         return second;
     }
@@ -100,14 +120,14 @@ final class WideModel {
         return cut(v, -16384, 16383);
     }
 
-    private static long x56(int i) {
+    static long x56(int i) {
         if (i >= 30) {
             return i == 30 ? 280 : -280;
         }
         return i < 16 ? X56[i] : Math.abs(X56[i - 14]);
     }
 
-    private static long x64(int i) {
+    static long x64(int i) {
         if (i >= 60) {
             return new long[] {432, 136, -432, -136}[i - 60];
         }
@@ -119,17 +139,21 @@ final class WideModel {
         long dl = down(low.det * U[r], 15);
         long dh = down(high.det * V[ih], 15);
         low.scale(lowWeight(r), 18432, 8);
-        high.scale(ih % 2 == 0 ? 798 : -214, 22528, 10);
+        high.scale(highWeight(ih), 22528, 10);
         low.forehand(dl);
         high.forehand(dh);
     }
 
-    private static long lowWeight(int r) {
+    static long lowWeight(int r) {
         if (r == 0 || r == 15) {
             return -60;
         }
         long[] w = {3042, 1198, 538, 334, 172, 58, -30};
         return w[(r - 1) % 7];
+    }
+
+    static long highWeight(int ih) {
+        return ih % 2 == 0 ? 798 : -214;
     }
 
     private void shift(long v, long w) {
